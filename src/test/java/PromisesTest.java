@@ -67,6 +67,8 @@ public final class PromisesTest {
         wold();
         faults();
         woldReadAnew();
+        woldReadSmaller();
+        bytesOfOldTexts();
         column();
         field();
         voter();
@@ -232,6 +234,8 @@ public final class PromisesTest {
         fault("x;", 0);
         fault("d1;xyz;", 3);
         fault("7;", 0);
+        // 99 is the byte of c
+        fault("99 0 0 0;", 0);
         fault(";", 0);
         fault("d1;;", 3);
         fault("g0;", 1);
@@ -255,6 +259,9 @@ public final class PromisesTest {
         fault("d01;", 1);
         fault("d000;", 1);
         fault("dd1;", 0);
+        fault("dz1;", 0);
+        fault("za1;", 0);
+        fault("da1;", 0);
         fault("D1;", 0);
         fault("d-1;", 1);
         fault("d1,", 2);
@@ -298,6 +305,54 @@ public final class PromisesTest {
         due("fair(0), of the new columns", x.fair(0), 1);
         due("fair(1), of the new columns", x.fair(1), 44);
         due("trace()", x.trace(), 1);
+    }
+
+    /** Nothing of earlier, greater texts may show. */
+    private static void woldReadSmaller() {
+        promise = "4 wold, read smaller";
+        String great = "c0 9 9;c0 9 9;c0 9 9;h7 8;g6;v9 1;v9 1;v9 1;d30;d29;d28;";
+        SleetLine x = told(great);
+        tell(x, great);
+        tell(x, great);
+        x.stakes(0);
+        x.fair(0);
+        x.best(0);
+        tell(x, "c9 1 1;v1 0;d9;");
+        due("column(0, 5)", x.column(0, 5), NONE);
+        due("column(0, 6)", x.column(0, 6), 0);
+        due("now(3)", x.now(3), 8);
+        due("now(4)", x.now(4), 0);
+        due("now(5)", x.now(5), 0);
+        due("now(7)", x.now(7), -1);
+        due("power(0, 0)", x.power(0, 0), 1);
+        due("power(0, 1)", x.power(0, 1), 1);
+        due("fair(0)", x.fair(0), 1);
+        due("fair(1)", x.fair(1), 4);
+        due("best(0)", x.best(0), 4);
+        due("best(1)", x.best(1), 4);
+        due("days(1)", x.days(1), 9);
+        x.warms(2);
+        due("HANDS as at first", x.column(0, 6), 2);
+        due("HANDS as at first", x.column(0, 7), 0);
+        tell(x, "h9 0;");
+        tell(x, "c0 0 0;d8;h9 0;");
+        due("h told with 0", x.column(0, 7), 8);
+        tell(x, "c0 0 0;d8;h9 1;");
+        tell(x, "c0 0 0;d7;");
+        due("HANDS as at first", x.column(0, 6), 7);
+        due("HANDS as at first", x.column(0, 7), 4);
+    }
+
+    private static void bytesOfOldTexts() {
+        promise = "4 wold, bytes of old texts";
+        SleetLine x = new SleetLine();
+        due("dd", tell(x, "dd"), -10);
+        x.clear();
+        due("d", tell(x, "d"), -11);
+        x.clear();
+        due("d12", tell(x, "d12"), -13);
+        x.clear();
+        due("d1", tell(x, "d1"), -12);
     }
 
     private static void column() {
@@ -518,6 +573,23 @@ public final class PromisesTest {
         due("now(0)", x.now(0), 1);
         due("now(2)", x.now(2), 3);
         due("undo(), older ones are lost", x.undo(), STATE);
+        SleetLine many = told(WOLD);
+        many.warms(1);
+        many.stakes(0);
+        many.stakes(1);
+        many.stakes(2);
+        for (int i = 0; i < 8; i++) {
+            many.days(1);
+        }
+        due("column(1, 5)", many.column(1, 5), 1);
+        for (int i = 0; i < 8; i++) {
+            many.undo();
+        }
+        due("undo() of the stake at 2", many.undo(), 1);
+        due("column(2, 5)", many.column(2, 5), NONE);
+        due("undo() of the stake at 1", many.undo(), 0);
+        due("column(1, 5)", many.column(1, 5), NONE);
+        due("column(0, 5)", many.column(0, 5), 3);
         x.hears(0, 0, 0, 1);
         x.days(1);
         x.hears(0, 0, 1, 1);
@@ -829,6 +901,9 @@ public final class PromisesTest {
         due("warmth(0)", x.warmth(0), 0);
         due("ask() of none", x.ask(), NONE);
         due("ask(), of several the least", told("c0 0 0;c0 0 0;h9 9;").ask(), 7);
+        SleetLine low = told("c0 0 0;h0 0;");
+        low.hears(0, 0, 1, 1);
+        due("ask() of 0, 1", low.ask(), 0);
     }
 
     private static void mark() {
@@ -902,9 +977,29 @@ public final class PromisesTest {
         x.undo();
         due("column(0, 5)", x.column(0, 5), NONE);
         x.days(3);
+        x.stakes(1);
+        x.pulls(1);
+        x.stakes(2);
         due("back(1), it is kept still", x.back(1), 4);
         due("column(0, 5)", x.column(0, 5), 2);
         due("count(5)", x.count(5), 3);
+        x.undo();
+        due("now(2)", x.now(2), 0);
+        x.undo();
+        due("now(0)", x.now(0), 0);
+        x.undo();
+        due("column(0, 5)", x.column(0, 5), NONE);
+        due("now(6)", x.now(6), 0);
+        // a stake of another column, so that what is kept must hold the column too
+        SleetLine y = told(WOLD);
+        y.stakes(2);
+        y.keep(0);
+        y.undo();
+        y.stakes(1);
+        y.back(0);
+        due("undo()", y.undo(), 0);
+        due("column(1, 5)", y.column(1, 5), NONE);
+        due("column(2, 5)", y.column(2, 5), NONE);
     }
 
     private static void count() {
