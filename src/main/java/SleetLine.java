@@ -891,20 +891,21 @@ public final class SleetLine {
             firstFair = NONE;
             bestLine = 0;
             bestLesser = -1;
-            drawFrom(told, 0, 0, 0, 0, 0);
+            drawFrom(this, told, 0, 0, 0, 0);
             known = true;
         }
 
         /** Draws on from column c in every way, the least line as a number first. */
-        private void drawFrom(Wold told, int c, int before, int line, int hillHas, int seaHas) {
+        private static void drawFrom(Lines into, Wold told, int c, int line, int hillHas, int seaHas) {
             if (c >= MOST_COLUMNS || c >= told.columns) {
-                judgeOne(line, hillHas, seaHas);
+                into.judgeOne(line, hillHas, seaHas);
                 return;
             }
-            int lowest = c == 0 ? 0 : Math.max(before - 1, 0);
-            int highest = c == 0 ? FIELDS : Math.min(before + 1, FIELDS);
+            int neighbour = line % 10;
+            int lowest = c == 0 ? 0 : Math.max(neighbour - 1, 0);
+            int highest = c == 0 ? FIELDS : Math.min(neighbour + 1, FIELDS);
             for (int at = lowest; at <= highest; at++) {
-                drawFrom(told, c + 1, at, line * 10 + at,
+                drawFrom(into, told, c + 1, line * 10 + at,
                     hillHas + told.hill[c] * (FIELDS - at), seaHas + told.sea[c] * at);
             }
         }
