@@ -1,13 +1,14 @@
 import java.io.IOException;
 import java.lang.reflect.Constructor;
 import java.lang.reflect.Field;
-import java.lang.reflect.Member;
 import java.lang.reflect.Method;
 import java.lang.reflect.Modifier;
 import java.nio.charset.StandardCharsets;
 import java.nio.file.Files;
 import java.nio.file.Path;
 import java.util.Arrays;
+import java.util.HashMap;
+import java.util.Map;
 import java.util.Set;
 import java.util.TreeSet;
 import java.util.regex.Matcher;
@@ -34,6 +35,7 @@ public final class FaceTest {
     public static void main(String[] args) throws IOException {
         face();
         nested();
+        shape(SleetLine.class);
         source(Files.readString(Path.of(SOURCE), StandardCharsets.ISO_8859_1));
         System.out.println(wrong == 0 ? "the face and the file are as told" : wrong + " things are not as told");
         if (wrong != 0) {
@@ -66,7 +68,6 @@ public final class FaceTest {
             } else {
                 check(Modifier.isPrivate(f.getModifiers()), f + " is not private");
             }
-            finalIfStatic(f);
         }
         check(constants.equals(Set.of("BAD", "STATE", "FULL", "NONE", "NO")), "the constants are " + constants);
         Constructor<?>[] made = SleetLine.class.getDeclaredConstructors();
@@ -83,8 +84,26 @@ public final class FaceTest {
         return s.append(')').toString();
     }
 
-    private static void finalIfStatic(Member f) {
-        check(!Modifier.isStatic(f.getModifiers()) || Modifier.isFinal(f.getModifiers()), f + " is static, not final");
+    /** Static fields are constants: a static object, final or not, would be shared by all objects of the class. */
+    private static void finalIfStatic(Field f) {
+        if (Modifier.isStatic(f.getModifiers())) {
+            check(Modifier.isFinal(f.getModifiers()), f + " is static, not final");
+            check(Set.of(int.class, long.class, boolean.class, char.class, String.class, int[].class, long[].class,
+                char[].class, byte[].class).contains(f.getType()), f + " is static, but no constant");
+        }
+    }
+
+    /** Rule 11: parameters of a method, fields beside the constants. */
+    private static void shape(Class<?> c) {
+        int fields = 0;
+        for (Field f : c.getDeclaredFields()) {
+            finalIfStatic(f);
+            fields += Modifier.isStatic(f.getModifiers()) ? 0 : 1;
+        }
+        check(fields <= 20, c + " has " + fields + " fields");
+        for (Method m : c.getDeclaredMethods()) {
+            check(m.getParameterCount() <= 7, m + " takes too much");
+        }
     }
 
     private static void nested() {
@@ -92,13 +111,7 @@ public final class FaceTest {
         check(classes.length < 12, "there are " + classes.length + " classes inside");
         for (Class<?> c : classes) {
             check(Modifier.isStatic(c.getModifiers()) && !Modifier.isPublic(c.getModifiers()), c + " is open or inner");
-            check(c.getDeclaredFields().length <= 20, c + " has too many fields");
-            for (Field f : c.getDeclaredFields()) {
-                finalIfStatic(f);
-            }
-            for (Method m : c.getDeclaredMethods()) {
-                check(m.getParameterCount() <= 7, m + " takes too much");
-            }
+            shape(c);
         }
     }
 
@@ -117,7 +130,57 @@ public final class FaceTest {
             check(!line.contains("new ") || line.matches(" +(private )?(final )?\\w+(\\[\\])? \\w+ = .*;"),
                 "an object is made here: " + line);
         }
+        libraryAsListed(code);
         methodsAreShort(code);
+        callsStayShallow(code);
+    }
+
+    private static void libraryAsListed(String code) {
+        Matcher used = Pattern.compile("\\b([A-Z]\\w*[a-z]\\w*)(\\.\\w+)?").matcher(code);
+        Set<String> fine = Set.of("Math.max", "Math.min", "Integer.bitCount", "System.arraycopy");
+        Set<String> own = new TreeSet<>(Set.of("SleetLine"));
+        for (Class<?> c : SleetLine.class.getDeclaredClasses()) {
+            own.add(c.getSimpleName());
+        }
+        while (used.find()) {
+            check(own.contains(used.group(1)) || fine.contains(used.group()), "the file uses " + used.group());
+        }
+    }
+
+    /** Rule 11 again: by the names of methods, a call of itself left out, no chain of calls has more than eight. */
+    private static void callsStayShallow(String code) {
+        Map<String, Set<String>> calls = new HashMap<>();
+        String open = null;
+        for (String line : code.split("\n")) {
+            Matcher begun = Pattern.compile(" +(?:(?:public|private|static) )*[\\w\\[\\]]+ (\\w+)\\(.*\\) \\{").matcher(line);
+            if (begun.matches() && !line.contains("else if")) {
+                open = begun.group(1);
+                calls.putIfAbsent(open, new TreeSet<>());
+            } else if (open != null) {
+                Matcher called = Pattern.compile("(\\w+)\\(").matcher(line);
+                while (called.find()) {
+                    calls.get(open).add(called.group(1));
+                }
+            }
+        }
+        for (Method m : SleetLine.class.getDeclaredMethods()) {
+            check(calls.containsKey(m.getName()), "the test does not see the method " + m.getName());
+            int deep = depth(calls, m.getName(), 1);
+            check(deep <= 8, m.getName() + " calls " + deep + " deep");
+        }
+    }
+
+    private static int depth(Map<String, Set<String>> calls, String name, int level) {
+        int deepest = level;
+        // A ring of calls would go on for ever: it is as wrong as a chain that is too long.
+        if (level <= 20) {
+            for (String called : calls.get(name)) {
+                if (!called.equals(name) && calls.containsKey(called)) {
+                    deepest = Math.max(deepest, depth(calls, called, level + 1));
+                }
+            }
+        }
+        return deepest;
     }
 
     private static void methodsAreShort(String code) {
